@@ -40,9 +40,6 @@ public final class CosetTables {
       moves[m] = new Move(this.places, this.twists);
     }
     symmetries = new int[MOST_SYMMETRIES][this.places];
-    for (int s = 0; s < MOST_SYMMETRIES; s++) {
-      leaveAll(symmetries[s]);
-    }
     numbering = new Numbering(this.places, this.twists);
     now = new State(this.places);
     walker = new State(this.places);
@@ -185,6 +182,7 @@ public final class CosetTables {
     if (symmetryCount >= MOST_SYMMETRIES) {
       return -1;
     }
+    leaveAll(symmetries[symmetryCount]);
     orbits.forget();
     return symmetryCount++;
   }
@@ -241,6 +239,12 @@ public final class CosetTables {
     for (int q = 0; q < goal.length; q++) {
       goal[q] = q;
     }
+  }
+
+  private static int[] rowThatLeavesAll(int length) {
+    int[] goal = new int[length];
+    leaveAll(goal);
+    return goal;
   }
 
   private static void swap(int[] row, int a, int b) {
@@ -362,9 +366,8 @@ public final class CosetTables {
 
     Move(int places, int twists) {
       this.twists = twists;
-      goal = new int[places];
+      goal = rowThatLeavesAll(places);
       added = new int[places];
-      leaveAll(goal);
     }
 
     void invert(Move move) {
@@ -395,9 +398,8 @@ public final class CosetTables {
     private final int[] turned;
 
     State(int places) {
-      at = new int[places];
+      at = rowThatLeavesAll(places);
       turned = new int[places];
-      leaveAll(at);
     }
 
     void goHome() {

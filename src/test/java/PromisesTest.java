@@ -311,7 +311,7 @@ public final class PromisesTest {
     }
     x.exchange(0, 0, 1);
     outOfBounds("value(8) without a table", () -> x.value(8));
-    // Now place 1 goes to 1 no more: 0 -> 2 -> .. -> 7 -> 0, and 1 stays.
+    // Now 0 goes to 2 and 1 stays: 0 -> 2 -> .. -> 7 -> 0.
     same("build(0) with a place apart", x.build(0), 6);
     same("value(1), which can't come home", x.value(1), -1);
     CosetTables none = new CosetTables(5, 2);
@@ -362,6 +362,8 @@ public final class PromisesTest {
       illegal("packed(" + bits + ", -1)", () -> x.packed(bits, -1));
     }
     x.exchange(0, 0, 1);
+    same("packed(4, 0) when the table is gone", x.packed(4, 0), 0);
+    same("packed(2, 0) when the table is gone", x.packed(2, 0), 0);
     x.build(0);
     // Place 1 stays alone: the values 0 - 6 5 4 3 2 1.
     same("packed(4, 0) with none", x.packed(4, 0), 0x123456F0L);
@@ -426,6 +428,8 @@ public final class PromisesTest {
     same("down() where home can't be come to", apart.down(), -1);
     apart.set(1);
     same("down() with a move that leaves all before", apart.down(), 17);
+    apart.exchange(1, 2, 3);
+    same("down() when the table is gone", apart.down(), -1);
     manyTimesDown();
   }
 
