@@ -2,8 +2,10 @@ import java.util.Random;
 
 /** Runs of calls drawn with fixed seeds, each answered by the class and by the model alike. */
 public final class ModelTest {
-  private static final int RUNS = 1200;
-  private static final int CALLS = 120;
+  private static final int RUNS = 2400;
+  private static final int ROUNDS = 120;
+  /** What an object answers behind its 512th call is free. */
+  private static final int MOST_CALLS = 512;
   private static final int OUT_OF_BOUNDS = 1;
   private static final int ILLEGAL = 2;
 
@@ -14,6 +16,7 @@ public final class ModelTest {
   private final Model model;
   private final int places;
   private final int twists;
+  private int calls;
 
   private ModelTest(Check check, long seed, int places, int twists) {
     this.check = check;
@@ -30,6 +33,10 @@ public final class ModelTest {
   }
 
   private void both(String call, Answer got, Answer want) {
+    if (calls >= MOST_CALLS) {
+      return;
+    }
+    calls++;
     long[] a = outcome(got);
     long[] b = outcome(want);
     check.same(name + call + " throws", a[0], b[0]);
@@ -124,24 +131,30 @@ public final class ModelTest {
   }
 
   private void glance() {
-    both("size()", () -> real.size(), () -> model.size());
-    both("number()", () -> real.number(), () -> model.number());
-    both("value(0)", () -> real.value(0), () -> model.value(0));
-    both("count(-1)", () -> real.count(-1), () -> model.count(-1));
-    both("down()", () -> real.down(), () -> model.down());
+    switch (random.nextInt(5)) {
+      case 0 -> both("size()", () -> real.size(), () -> model.size());
+      case 1 -> both("value(0)", () -> real.value(0), () -> model.value(0));
+      case 2 -> both("count(-1)", () -> real.count(-1), () -> model.count(-1));
+      case 3 -> both("down()", () -> real.down(), () -> model.down());
+      default -> both("number()", () -> real.number(), () -> model.number());
+    }
   }
 
+  /** Words from all over the table, some values, and the sum of all. */
   private void wholeTable() {
+    int words = (model.size() + 15) / 16;
     for (int measure = 0; measure < 2; measure++) {
       int wanted = measure;
       both("build(" + measure + ")", () -> real.build(wanted), () -> model.build(wanted));
-      for (int n = -1; n <= model.size(); n++) {
-        int number = n;
-        both("value(" + n + ")", () -> real.value(number), () -> model.value(number));
-      }
       int last = 6 + (model.size() + 1) / 2;
       both("file(last)", () -> real.file(last), () -> model.file(last));
       both("file(last + 1)", () -> real.file(last + 1), () -> model.file(last + 1));
+      for (int i = 0; i < 60; i++) {
+        int k = (int) ((long) i * words / 60);
+        int n = random.nextInt(model.size());
+        both("packed(4, " + k + ")", () -> real.packed(4, k), () -> model.packed(4, k));
+        both("value(" + n + ")", () -> real.value(n), () -> model.value(n));
+      }
     }
   }
 
@@ -150,7 +163,8 @@ public final class ModelTest {
     int places = 2 + sizes.nextInt(4);
     int twists = 1 + sizes.nextInt(places > 4 ? 2 : 3);
     ModelTest test = new ModelTest(check, seed, places, twists);
-    for (int c = 0; c < CALLS && !check.isWrong(); c++) {
+    int rounds = seed % 10 == 0 ? ROUNDS / 4 : ROUNDS;
+    for (int c = 0; c < rounds && !check.isWrong(); c++) {
       if (test.random.nextInt(3) == 0) {
         test.ask();
       } else {

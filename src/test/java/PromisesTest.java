@@ -14,27 +14,16 @@ public final class PromisesTest {
     CHECK.illegal(what, call);
   }
 
-  /** A move that takes each of these places to the next of them, and the last to the first. */
   private static int circle(CosetTables x, int... places) {
-    int move = x.move();
-    for (int i = 0; i + 1 < places.length; i++) {
-      x.exchange(move, places[i], places[i + 1]);
-    }
-    return move;
+    return Puzzles.circle(x, places);
   }
 
-  /** Eight places in one circle, one piece chosen: at place q its value is 8 - q (0 at home). */
   private static CosetTables ring() {
-    CosetTables x = new CosetTables(8, 1);
-    circle(x, 0, 1, 2, 3, 4, 5, 6, 7);
-    x.choose(0, true);
-    return x;
+    return Puzzles.ring();
   }
 
   private static void hasTable(String what, CosetTables x, boolean there) {
-    same(what + ": value(0) tells of a table", x.value(0) == -2 ? 0 : 1, there ? 1 : 0);
-    same(what + ": count tells of a table", x.count(0) == -1 ? 0 : 1, there ? 1 : 0);
-    same(what + ": file tells of a table", x.file(0), there ? 67 : -1);
+    CHECK.table(what, x, there);
   }
 
   private static void promise1() {
@@ -245,20 +234,14 @@ public final class PromisesTest {
       outOfBounds("place(" + piece + ")", () -> x.place(piece));
       outOfBounds("twist(" + piece + ")", () -> x.twist(piece));
     }
-    everyNumberComesBack();
+    theLastNumber();
   }
 
-  private static void everyNumberComesBack() {
+  private static void theLastNumber() {
     CosetTables x = new CosetTables(8, 3);
     for (int piece : new int[] {6, 1, 4, 3}) {
       x.choose(piece, true);
     }
-    int differ = 0;
-    for (int number = 0; number < x.size(); number++) {
-      x.set(number);
-      differ += x.number() == number ? 0 : 1;
-    }
-    same("numbers that do not come back", differ, 0);
     x.set(136079);
     same("the last state's first piece", x.place(1), 7);
     same("the last state's second piece", x.place(3), 6);
@@ -371,21 +354,14 @@ public final class PromisesTest {
     greatValuesPacked();
   }
 
-  /** One circle of eight with a twist of 3 left over: 24 states with the values 0 to 23. */
   private static void greatValuesPacked() {
-    CosetTables x = new CosetTables(8, 3);
-    circle(x, 0, 1, 2, 3, 4, 5, 6, 7);
-    x.adds(0, 7, 1);
-    x.choose(0, true);
+    CosetTables x = Puzzles.longRing();
     same("build(0) of 24 in a circle", x.build(0), 23);
-    // State 3 q + t comes home after 24 - (q + 8 t) moves.
-    for (int n = 1; n < 24; n++) {
-      same("value(" + n + ")", x.value(n), (24 - (n / 3 + 8 * (n % 3))) % 24);
-    }
     long first = 0;
     long second = 0;
     for (int n = 0; n < 24; n++) {
-      long four = Math.min(14, (24 - (n / 3 + 8 * (n % 3))) % 24);
+      same("value(" + n + ")", x.value(n), Puzzles.longRingValue(n));
+      long four = Math.min(14, Puzzles.longRingValue(n));
       first |= n < 16 ? four << (4 * n) : 0;
       second |= n >= 16 ? four << (4 * (n - 16)) : 0;
     }
